@@ -169,7 +169,7 @@ final class RandomRunsTest {
             }
             Due.is(2, run + "feed", x.feed(v[0], v[1], v[2], v[3], v[4]), m.feed(v));
         }
-        int n = upTo(12) == 0 ? upTo(60) - 5 : before + text.length();
+        int n = upTo(12) == 0 ? upTo(60) - 5 : upTo(20) == 0 ? odd() : before + text.length();
         Due.is(3, run + "town: " + text, x.town(n), m.town(n));
         for (int what = -1; what < 3; what++) {
             Due.is(4, run + "fault(" + what + "): " + text, x.fault(what), m.fault(what));
@@ -178,16 +178,21 @@ final class RandomRunsTest {
 
     // ---- calls
 
+    private int odd() {
+        int[] odd = {Integer.MIN_VALUE, Integer.MAX_VALUE, Integer.MIN_VALUE + 1, 1 << 16, -1, 31, 32, 33, 255, 256};
+        return upTo(2) == 0 ? odd[upTo(odd.length)] : upTo(40) - 20;
+    }
+
     private int h() {
-        return upTo(12) == 0 ? upTo(30) - 10 : m.g.n == 0 ? 0 : upTo(m.g.n);
+        return upTo(12) == 0 ? odd() : m.g.n == 0 ? 0 : upTo(m.g.n);
     }
 
     private int what(int most) {
-        return upTo(10) == 0 ? upTo(40) - 20 : upTo(most + 1);
+        return upTo(10) == 0 ? odd() : upTo(most + 1);
     }
 
     private int cost() {
-        return upTo(10) == 0 ? upTo(300) - 100 : upTo(3) == 0 ? upTo(100) : upTo(25);
+        return upTo(20) == 0 ? odd() : upTo(10) == 0 ? upTo(300) - 100 : upTo(3) == 0 ? upTo(100) : upTo(25);
     }
 
     private void go(int calls) {
@@ -290,7 +295,7 @@ final class RandomRunsTest {
                 break;
             default:
                 int seed = random.nextInt();
-                int times = upTo(8) == 0 ? upTo(80) - 10 : upTo(20);
+                int times = upTo(20) == 0 ? odd() : upTo(8) == 0 ? upTo(80) - 10 : upTo(20);
                 Due.is(21, run + "century(" + seed + ", " + times + ")", x.century(seed, times), m.century(seed, times));
                 break;
         }
@@ -302,7 +307,7 @@ final class RandomRunsTest {
         int n = upTo(6);
         Due.is(49, run + "numbers", x.numbers(row, sort, n), m.numbers(row, sort, n));
         for (int i = 0; i < n; i++) {
-            long v = upTo(15) == 0 ? random.nextLong() >> upTo(64) : 100 * h() + h();
+            long v = upTo(15) == 0 ? random.nextLong() >> upTo(64) : 100L * h() + h();
             Due.is(50, run + "write", x.write(row, i, v), m.write(row, i, v));
         }
         for (int what = -1; what < 5; what++) {
@@ -426,7 +431,7 @@ final class RandomRunsTest {
         switch (upTo(6)) {
             case 0:
                 int sort = what(3);
-                int n = upTo(60) - 8;
+                int n = upTo(8) == 0 ? odd() : upTo(60) - 8;
                 Due.is(49, run + "numbers", x.numbers(row, sort, n), m.numbers(row, sort, n));
                 break;
             case 1:
