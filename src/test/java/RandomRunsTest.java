@@ -112,12 +112,12 @@ final class RandomRunsTest {
         if (n >= 3 && upTo(3) == 0) {
             s.append(ring(n));
         }
-        int rules = upTo(3) == 0 ? 0 : upTo(4);
+        int rules = upTo(3) == 0 ? 0 : upTo(8) == 0 ? upTo(7) : upTo(4);
         for (int i = 0; i < rules; i++) {
             s.append("rule").append(maybe()).append(":").append(maybe())
                     .append(upTo(2) == 0 ? kindRule() : truth(0)).append(";").append(maybe());
         }
-        return s.toString();
+        return s.length() > 800 ? text() : s.toString();
     }
 
     private String ring(int n) {

@@ -276,5 +276,11 @@ final class TownTest {
         Due.is(8, "no houses", z.broken(0), -1);
         Due.is(9, "no houses", z.breaches(), 0);
         Due.is(9, "no houses", z.count(2), 1);
+        NoThree six = Due.town("houses 3;door 0 1;rule:1=1;rule:doors<2;rule:2=2;rule:far<2;rule:3=3;rule:doors=1 or 1=2;");
+        Due.is(7, "a sixth rule", six.holds(5, 0), 1);
+        Due.is(7, "a sixth rule", six.holds(5, 2), 0);
+        Due.is(7, "no seventh", six.holds(6, 0), -2);
+        Due.is(8, "a sixth rule", six.broken(1), 5);
+        Due.is(9, "a sixth rule", six.breaches(), 1);
     }
 }
