@@ -111,6 +111,21 @@ final class RestsTest {
         NoThree eleven = Due.town("houses 11;");
         Due.is(47, "eleven", eleven.changing(0, 0), 10);
         Due.is(47, "eleven", eleven.changing(0, 1), 10);
+        sixtyTimes();
+    }
+
+    private static void sixtyTimes() {
+        String town = Due.complete(11).replace("door 3 10;", "").replace("door 4 10;", "").replace("door 5 10;", "")
+                .replace("door 6 10;", "") + "rule: colours < 3;";
+        NoThree x = Due.town(town);
+        Model m = new Model();
+        m.tape = town;
+        m.town(town.length());
+        int[] due = {60, 29, 0};
+        for (int what = 0; what < 3; what++) {
+            Due.is(47, "sixty times at most, " + what, x.changing(7, what), due[what]);
+            Due.is(47, "sixty times at most, " + what, m.changing(7, what), due[what]);
+        }
     }
 
     private static void dearness() {

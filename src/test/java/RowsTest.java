@@ -6,6 +6,7 @@ final class RowsTest {
         copy();
         image();
         restoreAll();
+        restoreManyDeeds();
         count();
         Due.end();
     }
@@ -142,6 +143,32 @@ final class RowsTest {
         Due.is(53, "doors", y.count(1), 0);
         Due.is(53, "undo(1)", y.undo(1), 0);
         Due.is(53, "doors", y.count(1), 1);
+    }
+
+    /** After so many deeds all places for them have been used, in the image and behind it. */
+    private static void restoreManyDeeds() {
+        NoThree x = Due.town("houses 11;");
+        for (int h = 1; h < 11; h++) {
+            x.join(0, h);
+        }
+        for (int h = 1; h < 11; h++) {
+            x.wall(0, h);
+        }
+        x.image(0);
+        for (int i = 0; i < 20; i++) {
+            x.leave(x.count(0) - 1);
+            x.enter(0);
+            x.century(i, 9);
+        }
+        x.restore(0);
+        int near = 0;
+        for (int h = 10; h > 0; h--) {
+            Due.is(53, "deeds", x.undo(1), h + 1);
+            near |= 1 << h;
+            Due.is(53, "doors of house 0", x.house(0, 1), near);
+        }
+        Due.is(53, "undo(2)", x.undo(2), 0);
+        Due.is(53, "doors of house 0", x.house(0, 1), 510);
     }
 
     private static void count() {

@@ -88,6 +88,9 @@ final class TownTest {
         Due.faultOf("houses 3;" + (char) 233, 1, 9);
         Due.faultOf("houses 3;" + (char) 0, 1, 9);
         Due.faultOf("Houses 3;", 1, 0);
+        Due.faultOf("{", 1, 0);
+        Due.faultOf("`", 1, 0);
+        Due.faultOf("houses /;", 1, 7);
         Due.faultOf("houses 0001;", 1, 7);
         Due.faultOf("houses 12345678901;", 1, 7);
         Due.faultOf("rule: doors / 2 = 1;", 1, 12);
@@ -105,6 +108,11 @@ final class TownTest {
         Due.faultOf("housesx 3;", 2, 0);
         Due.faultOf("doors 0 1;", 2, 0);
         Due.faultOf("3;", 2, 0);
+        Due.faultOf("mouses 3;", 2, 0);
+        Due.faultOf("zoo;", 2, 0);
+        Due.faultOf("azz;", 2, 0);
+        Due.faultOf("rule: tar = 1;", 2, 6);
+        Due.faultOf("rule: fat = 1;", 2, 6);
         Due.faultOf("houses 3 4;", 2, 9);
         Due.faultOf("houses 3;door 0;", 2, 15);
         Due.faultOf("houses 3;door 0 1 2;", 2, 18);
