@@ -294,9 +294,7 @@ final class DeedBoundsTest {
                     Due.is(15, "house " + h + " of " + n + " without " + gone, x.house(h, 1), near);
                 }
                 Due.is(15, "the last number is free", x.house(n - 1, 1), -2);
-                if (n > 1) {
-                    Due.is(15, "a new one has no doors", Due.town("houses " + n + ";").enter(0), n < 11 ? n : -16);
-                }
+                comesBehind(n, gone);
             }
         }
         NoThree y = Due.town(Due.complete(11));
@@ -306,6 +304,17 @@ final class DeedBoundsTest {
         }
         Due.is(15, "nobody is left", y.leave(0), -11);
         Due.is(15, "the latest twelve", y.count(3), 11);
+    }
+
+    /** "Its DOORS go": who comes in its place has none of them. */
+    private static void comesBehind(int n, int gone) {
+        NoThree x = Due.town(Due.complete(n));
+        x.leave(gone);
+        Due.is(15, "a new one has the last number", x.enter(0), n - 1);
+        Due.is(15, "a new one has no doors", x.house(n - 1, 1), 0);
+        Due.is(15, "nobody has one to it", x.count(1), (n - 1) * (n - 2) / 2);
+        Due.is(15, "undone", x.undo(2), 0);
+        Due.is(15, "undone", x.count(1), n * (n - 1) / 2);
     }
 
     /** "5 HOUSES at most; RULES aside"; "-4: there are more than 5". */

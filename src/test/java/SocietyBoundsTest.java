@@ -17,6 +17,7 @@ final class SocietyBoundsTest {
         cureWhat();
         cureOfSix();
         cureOfNone();
+        firstCures();
         costBounds();
         restAtTheCost();
         oneMayHaveAsMuch();
@@ -282,6 +283,29 @@ final class SocietyBoundsTest {
         cured("houses 11;ring 8 9 10;", 809);
         // A round of six houses about one: the walls to it are shared by two threes each.
         cured(ring(6) + "houses 1;door 6 0;door 6 1;door 6 2;door 6 3;door 6 4;door 6 5;", 6, 206, 406);
+    }
+
+    /** "Of like ones the first as a row of DOORS in order": of four who are all neighbours two doors go, three ways. */
+    private static void firstCures() {
+        for (int a = 0; a < 11; a++) {
+            for (int b = a + 1; b < 11; b++) {
+                for (int c = b + 1; c < 11; c++) {
+                    for (int d = c + 1; d < 11; d++) {
+                        String ring = a + " " + b + " " + c + " " + d;
+                        cured("houses 11;ring " + ring + ";door " + a + " " + c + ";door " + b + " " + d + ";",
+                                100 * a + b, 100 * c + d);
+                    }
+                }
+                // A door that many threes share is the only cure by one wall.
+                StringBuilder book = new StringBuilder("houses 11;door " + a + " " + b + ";");
+                for (int c = 0; c < 11; c++) {
+                    if (c != a && c != b) {
+                        book.append("door ").append(c).append(' ').append(a).append(";door ").append(c).append(' ').append(b).append(';');
+                    }
+                }
+                cured(book.toString(), 100 * a + b);
+            }
+        }
     }
 
     /** "COST (0 to 99)": -3; -2 is told first. */
