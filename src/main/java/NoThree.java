@@ -50,7 +50,8 @@ public final class NoThree {
     private static final int[] MOST_DOORS_NO_FOURS = {0, 0, 1, 2, 3, 5, 6};
 
     private final Annals now = new Annals();
-    private final Annals[] images = new Annals[IMAGES];
+    private final Annals firstImage = new Annals();
+    private final Annals secondImage = new Annals();
     private final boolean[] imageMade = new boolean[IMAGES];
     private final Reader reader = new Reader();
     private final Feasts feasting = new Feasts();
@@ -66,9 +67,6 @@ public final class NoThree {
     private final int[] rowSizes = new int[ROWS];
 
     public NoThree() {
-        for (int i = 0; i < IMAGES; i++) {
-            images[i] = new Annals();
-        }
         for (int row = 0; row < ROWS; row++) {
             rowSizes[row] = NONE;
         }
@@ -494,7 +492,7 @@ public final class NoThree {
         if (!imageMade[image]) {
             return NOT_NOW;
         }
-        Town other = images[image].town;
+        Town other = imageAt(image).town;
         if (now.town.houses > MATCH_MOST || other.houses > MATCH_MOST) {
             return TOO_MANY;
         }
@@ -630,7 +628,7 @@ public final class NoThree {
         if (!isImage(i)) {
             return NO_SUCH;
         }
-        images[i].become(now);
+        imageAt(i).become(now);
         imageMade[i] = true;
         return 0;
     }
@@ -642,7 +640,7 @@ public final class NoThree {
         if (!imageMade[i]) {
             return NOT_NOW;
         }
-        now.become(images[i]);
+        now.become(imageAt(i));
         return 0;
     }
 
@@ -677,6 +675,10 @@ public final class NoThree {
 
     private static boolean isImage(int i) {
         return i >= 0 && i < IMAGES;
+    }
+
+    private Annals imageAt(int i) {
+        return i == 0 ? firstImage : secondImage;
     }
 
     private static boolean isCost(int cost) {
@@ -989,8 +991,7 @@ public final class NoThree {
         }
 
         // In a round of four two houses that face one another share two neighbours.
-        private static int roundsBy(int sharedNeighbours) {
-            int shared = Integer.bitCount(sharedNeighbours);
+        private static int roundsBy(int shared) {
             return shared * (shared - 1) / 2;
         }
 
@@ -998,7 +999,7 @@ public final class NoThree {
             int found = 0;
             for (int other = 0; other < houses; other++) {
                 if (other != h) {
-                    found += roundsBy(neighbours(h) & near[other]);
+                    found += roundsBy(Integer.bitCount(neighbours(h) & near[other]));
                 }
             }
             return found;
@@ -1008,7 +1009,7 @@ public final class NoThree {
             int found = 0;
             for (int a = 0; a < houses; a++) {
                 for (int b = a + 1; b < houses; b++) {
-                    found += roundsBy(near[a] & near[b]);
+                    found += roundsBy(Integer.bitCount(near[a] & near[b]));
                 }
             }
             // Each round has two pairs that face one another.

@@ -116,8 +116,7 @@ final class LanguageTest {
         Matcher made = Pattern.compile("\n( *)([^\n]*\\bnew\\b[^\n]*)").matcher(code);
         while (made.find()) {
             boolean field = made.group(2).matches("(private |final |static )*[\\w\\[\\]]+ \\w+ = new [^\n]*;");
-            boolean image = made.group(2).equals("images[i] = new Annals();");
-            Due.is(0, "made: " + made.group(2), field && made.group(1).length() <= 8 || image);
+            Due.is(0, "made: " + made.group(2), field && made.group(1).length() <= 8);
         }
     }
 
